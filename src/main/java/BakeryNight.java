@@ -174,7 +174,6 @@ public final class BakeryNight {
 
     private void dropNight() {
         simulated = false;
-        planned = false;
     }
 
     public int batchDough(int batch) throws IllegalStateException, IndexOutOfBoundsException {
@@ -960,8 +959,8 @@ public final class BakeryNight {
     }
 
     /**
-     * Reads a text from front to back, so that the first fault found is the one with the smallest offset; at a token the
-     * faults are looked for in the order of their codes.
+     * Reads a text from front to back, so that the first fault found is the one with the smallest offset; at a token
+     * the faults are looked for in the order of their codes.
      */
     private static final class Parser {
         private static final int MISPLACED = 1;
@@ -1531,8 +1530,8 @@ public final class BakeryNight {
         }
 
         /**
-         * The minute at which a loaf of a dough is taken out of the oven, NONE if there are not so many loaves. Batches of
-         * one dough never overtake one another, so that the order of their numbers is that in which they are available.
+         * The minute at which a loaf of a dough is taken out of the oven, NONE if there are not so many loaves. Batches
+         * of one dough never overtake one another, so that they are available in the order of their numbers.
          */
         private int takenOut(Bakery bakery, int kind, int loaf) {
             int before = 0;
@@ -1666,6 +1665,7 @@ public final class BakeryNight {
         /** How much later the night could start with no shop of a set late, LAST_MINUTE at most. */
         private final int[] setSlack;
         private final int[] shopsOfVan;
+        private final int[] vanOfShop;
 
         boolean possible;
         int lateTotal;
@@ -1681,6 +1681,7 @@ public final class BakeryNight {
             setMinutes = new int[Roads.SETS];
             setSlack = new int[Roads.SETS];
             shopsOfVan = new int[Bakery.MAX_VANS];
+            vanOfShop = new int[Bakery.MAX_SHOPS];
             bestShops = new int[Bakery.MAX_VANS];
             arrival = new int[Bakery.MAX_SHOPS];
         }
@@ -1712,9 +1713,9 @@ public final class BakeryNight {
             possible = false;
             int leastMinutes = 0;
             measureSets(bakery);
-            int ways = waysToAssign(bakery);
+            int ways = firstWay(bakery);
             for (int way = 0; way < ways; way++) {
-                if (assign(bakery, way)) {
+                if (canCarry(bakery)) {
                     int late = 0;
                     int minutes = 0;
                     for (int van = 0; van < bakery.vanTotal; van++) {
@@ -1728,6 +1729,7 @@ public final class BakeryNight {
                         System.arraycopy(shopsOfVan, 0, bestShops, 0, bestShops.length);
                     }
                 }
+                nextWay(bakery);
             }
             for (int van = 0; van < bakery.vanTotal && possible; van++) {
                 drive(bakery.roads, bestShops[van]);
@@ -1741,20 +1743,25 @@ public final class BakeryNight {
             }
             int latest = NONE;
             measureSets(bakery);
-            int ways = waysToAssign(bakery);
+            int ways = firstWay(bakery);
             for (int way = 0; way < ways; way++) {
-                if (assign(bakery, way)) {
+                if (canCarry(bakery)) {
                     int slack = LAST_MINUTE;
                     for (int van = 0; van < bakery.vanTotal; van++) {
                         slack = Math.min(slack, setSlack[shopsOfVan[van]]);
                     }
                     latest = Math.max(latest, slack);
                 }
+                nextWay(bakery);
             }
             return latest;
         }
 
-        private int waysToAssign(Bakery bakery) {
+        /** Assigns all served shops to the first van; returns in how many ways they can be assigned to the vans. */
+        private int firstWay(Bakery bakery) {
+            Arrays.fill(shopsOfVan, 0);
+            Arrays.fill(vanOfShop, 0);
+            shopsOfVan[0] = served;
             if (bakery.roads.restOfRoute(Roads.HOME, served) >= Roads.UNREACHED) {
                 return 0;
             }
@@ -1765,17 +1772,23 @@ public final class BakeryNight {
             return ways;
         }
 
-        /** Spreads the served shops over the vans in one of the ways; returns whether the vans can carry the loads. */
-        private boolean assign(Bakery bakery, int way) {
-            Arrays.fill(shopsOfVan, 0);
-            int vans = Math.max(1, bakery.vanTotal);
-            int left = way;
-            for (int shop = bakery.shopTotal - 1; shop >= 0; shop--) {
-                if ((served >> shop & 1) != 0) {
-                    shopsOfVan[left % vans] |= 1 << shop;
-                    left /= vans;
+        /** Counts on, as with a number that has the vans as digits: the last shop that can gets the next van. */
+        private void nextWay(Bakery bakery) {
+            for (int shop = Bakery.MAX_SHOPS - 1; shop >= 0; shop--) {
+                int bit = 1 << shop;
+                if ((served & bit) != 0) {
+                    int next = vanOfShop[shop] + 1 < bakery.vanTotal ? vanOfShop[shop] + 1 : 0;
+                    shopsOfVan[vanOfShop[shop]] &= ~bit;
+                    shopsOfVan[next] |= bit;
+                    vanOfShop[shop] = next;
+                    if (next != 0) {
+                        return;
+                    }
                 }
             }
+        }
+
+        private boolean canCarry(Bakery bakery) {
             for (int van = 0; van < bakery.vanTotal; van++) {
                 if (setLoad[shopsOfVan[van]] > bakery.vanLoads[van]) {
                     return false;

@@ -325,6 +325,11 @@ public final class ModelTest {
       if (turn == 1) compareLatest(x, y, said, number % 40 == 0);
       if (turn % 2 == 1) compareAll(x, y, said);
       if (below(4) == 0) parse(x, y, spoil(text));
+      if (below(6) == 0) {
+        text = text();
+        said.add("parse " + text);
+        parse(x, y, text);
+      }
       count(y);
       int changes = below(6) == 0 ? 20 : from(1, 4);
       for (int i = 0; i < changes; i++) change(x, y, said);
