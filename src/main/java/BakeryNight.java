@@ -36,7 +36,7 @@ public final class BakeryNight {
 
     public BakeryNight() {
         buffer = new byte[MAX_BYTES];
-        parser = new Parser(buffer);
+        parser = new Parser();
         bakery = new Bakery();
         spare = new Bakery();
         history = new History();
@@ -76,7 +76,7 @@ public final class BakeryNight {
     }
 
     public int parseBakery() {
-        int statements = parser.parse(length, spare);
+        int statements = parser.parse(buffer, length, spare);
         length = 0;
         if (statements == NONE) {
             return NONE;
@@ -868,17 +868,18 @@ public final class BakeryNight {
         private static final int LONGEST_NUMBER = 4;
         private static final Word[] WORDS = Word.values();
 
-        private final byte[] text;
+        private byte[] text;
         private int length;
         int kind;
         int start;
         private int end;
 
-        Scanner(byte[] itsText) {
-            text = itsText;
+        Scanner() {
+            text = new byte[0];
         }
 
-        void begin(int itsLength) {
+        void begin(byte[] itsText, int itsLength) {
+            text = itsText;
             length = Math.min(itsLength, text.length);
             end = 0;
             next();
@@ -979,15 +980,15 @@ public final class BakeryNight {
         int faultCode;
         int faultOffset;
 
-        Parser(byte[] text) {
-            scanner = new Scanner(text);
+        Parser() {
+            scanner = new Scanner();
             doughNames = new long[Bakery.MAX_DOUGHS];
             shopNames = new long[Bakery.MAX_SHOPS];
             faultOffset = NONE;
         }
 
-        /** Reads the first bytes as a bakery text; returns the number of statements, or NONE if there is a fault. */
-        int parse(int length, Bakery bakery) {
+        /** Reads first bytes as a bakery text; returns the number of statements, or NONE if there is a fault. */
+        int parse(byte[] text, int length, Bakery bakery) {
             faultCode = 0;
             faultOffset = NONE;
             roomGiven = false;
@@ -995,7 +996,7 @@ public final class BakeryNight {
             mixersGiven = false;
             bakersGiven = false;
             bakery.clear();
-            scanner.begin(length);
+            scanner.begin(text, length);
             int statements = 0;
             while (scanner.kind != Scanner.END && faultCode == 0 && statements < MAX_BYTES) {
                 readStatement(bakery);

@@ -67,6 +67,18 @@ public final class RulesTest {
     }
   }
 
+  /** What a constructor makes gets nothing of the object that is not made yet. */
+  private static void constructors(String source) {
+    Matcher m = Pattern.compile("(?m)^( +)(public )?[A-Z]\\w*\\([^)]*\\) \\{\n((?s:.*?))\n\\1\\}$").matcher(code(source));
+    int seen = 0;
+    while (m.find()) {
+      seen++;
+      none("rule 12: handed out by a constructor", m.group(3), "new [A-Z]\\w*\\([^)]+\\)|\\bthis\\b");
+      none("rule 6: a throw in a constructor", m.group(3), "\\bthrow\\b");
+    }
+    Check.due("constructors looked at", seen, 9);
+  }
+
   private static void classes() {
     List<Class<?>> all = new ArrayList<>();
     all.add(BakeryNight.class);
@@ -157,6 +169,7 @@ public final class RulesTest {
     String source = Files.readString(SOURCE, StandardCharsets.UTF_8);
     words(source);
     methods(source);
+    constructors(source);
     classes();
     room();
     Check.end("RulesTest");
